@@ -1,0 +1,65 @@
+/** What the tests share: comparing answers, and writing texts on THE SHEET. */
+final class Checks {
+    private int wrong;
+    private int made;
+
+    void due(String call, long got, long want) {
+        made++;
+        if (got != want) {
+            wrong++;
+            System.out.println(call + " answered " + got + ", due is " + want);
+        }
+    }
+
+    void isTrue(String what, boolean holds) {
+        due(what, holds ? 1 : 0, 1);
+    }
+
+    void end(String name) {
+        System.out.println(name + ": " + made + " checks, " + wrong + " wrong");
+        if (wrong != 0 || made == 0) {
+            System.exit(1);
+        }
+    }
+
+    /** A text of up to eight letters as the long that letters() takes. */
+    static long packed(String text) {
+        long w = 0;
+        for (int i = 0; i < text.length(); i++) {
+            w |= (text.charAt(i) & 255L) << (8 * i);
+        }
+        return w;
+    }
+
+    static void write(RowsDrawn x, String text) {
+        for (int i = 0; i < text.length(); i += 8) {
+            x.letters(packed(text.substring(i, Math.min(text.length(), i + 8))));
+        }
+    }
+
+    static int page(RowsDrawn x, String text) {
+        x.blank();
+        write(x, text);
+        return x.page();
+    }
+
+    static int rule(RowsDrawn x, int sort, String text) {
+        x.blank();
+        write(x, text);
+        return x.rule(sort);
+    }
+
+    static int fault(RowsDrawn x, int sort, String text) {
+        x.blank();
+        write(x, text);
+        return x.fault(sort);
+    }
+
+    static int bits(int... boxes) {
+        int set = 0;
+        for (int b : boxes) {
+            set |= 1 << b;
+        }
+        return set;
+    }
+}
