@@ -358,7 +358,7 @@ public final class RowsDrawn {
         if ((given & from.worded) == 0) {
             return STATE;
         }
-        mending.workOut(to, to.wordsSharedWith(from, given));
+        mending.workOut(to, to.sharedWords(to.worded, from, given));
         switch (what) {
             case 0: return mending.likeness;
             case 1: return lengthOf(mending.sentence);
@@ -874,11 +874,11 @@ public final class RowsDrawn {
             return false;
         }
 
-        /** The BOXES of this PAGE with a WORD that some BOX of a set of another PAGE has. */
-        int wordsSharedWith(Page other, int otherSet) {
+        /** The BOXES of a set with a WORD that some BOX of a set of another PAGE has. */
+        int sharedWords(int set, Page other, int otherSet) {
             int shared = 0;
             for (int b = 0; b < size; b++) {
-                if (isIn(worded, b) && other.hasWord(otherSet, words[b])) {
+                if (isIn(set & worded, b) && other.hasWord(otherSet, words[b])) {
                     shared |= 1 << b;
                 }
             }
@@ -959,7 +959,7 @@ public final class RowsDrawn {
 
         private boolean isAsBefore(Page page, int given, Page ahead, int before) {
             int unlike = ahead.unlikeWords(before);
-            int again = unlike & ahead.wordsSharedWith(page, given);
+            int again = ahead.sharedWords(unlike, page, given);
             return Integer.bitCount(again) * 100 >= x * Integer.bitCount(unlike);
         }
     }

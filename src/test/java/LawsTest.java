@@ -40,6 +40,10 @@ public final class LawsTest {
         c.due("18 a ninth", x.law(2, 0, 0), RowsDrawn.FULL);
         c.due("18 outside ahead of full", x.law(2, 0, 100), RowsDrawn.OUTSIDE);
         c.due("18 eight", x.count(2), 8);
+        Checks.page(x, "a(b)");
+        Checks.rule(x, 0, "b");
+        c.due("18 the eighth", x.holds(7, 0, 0), 1);
+        c.due("18 none behind the eighth", x.holds(8, 0, 0), RowsDrawn.UNKNOWN);
     }
 
     private static void holds() {
@@ -101,6 +105,8 @@ public final class LawsTest {
         // What is not given does not count, nor do boxes without a word.
         asBeforeIs("a(b1b2)", "a(b1c2)", 51, 0);
         asBeforeIs("a(b1c2)", "a(b1)", 99, 1);
+        asBeforeIs("a(b1c2)", "a(b2)", 1, 0);
+        asBeforeIs("a(b1b1b1b2)", "a(b1)", 51, 0);
         asBeforeIs("a(bb1)", "a(b1)", 99, 1);
         asBeforeIs("a(bb)", "a(b1)", 99, 1);
         asBeforeIs("a(c1)", "a(b1)", 99, 1);

@@ -185,6 +185,19 @@ public final class MarksTest {
         c.due("15 b", y.step(0, 0), 1);
         c.due("15 b/c", y.step(0, 1), 2);
         c.due("15 b/c/d", y.step(0, 2), 3);
+        // The first sentences of two and of three steps.
+        RowsDrawn z = with("b(a(a(a)))");
+        z.whole(0, true);
+        z.mark(0, 2, 1);
+        c.due("15 a/a", z.fits(1), 2);
+        c.due("15 a of a/a", z.step(0, 0), 0);
+        c.due("15 second a of a/a", z.step(0, 1), 0);
+        c.due("15 no third of a/a", z.step(0, 2), RowsDrawn.NONE);
+        z.mark(0, 2, 0);
+        z.mark(0, 3, 1);
+        c.due("15 a/a/a", z.fits(1), 3);
+        c.due("15 likeliest a/a/a", z.fits(2), 3);
+        c.due("15 third a", z.step(0, 2), 0);
     }
 
     /** Each STEP of THE TONGUE by its number, as the one that alone leads to what is marked. */

@@ -243,7 +243,7 @@ public final class ModelTest {
                 due("step(1, " + n + ")", x.step(1, n), m.step(1, n));
                 break;
             case 12: {
-                int lowest = pick(words);
+                int lowest = n == 3 ? pick(100) : pick(words);
                 int range = lowest + pick(words);
                 due("law(" + n + ", " + lowest + ", " + range + ")", x.law(n, lowest, range), m.law(n, lowest, range));
                 break;

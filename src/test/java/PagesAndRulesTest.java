@@ -11,6 +11,7 @@ public final class PagesAndRulesTest {
         blank();
         faultOfPages();
         faultOfRules();
+        faultsApart();
         page();
         rule();
         as();
@@ -139,6 +140,24 @@ public final class PagesAndRulesTest {
         c.due("4 as a page", x.page(), 0);
     }
 
+    /** What was read before leaves nothing behind. */
+    private static void faultsApart() {
+        RowsDrawn x = new RowsDrawn();
+        String[] halves = {"", "*", "a/", "a", "a(", "a(b", "a(b(c)", "a1", "a(b)", "a/b/c/d/e/a", "a(" + "b".repeat(23)};
+        for (String half : halves) {
+            for (int sort = 0; sort <= 1; sort++) {
+                Checks.fault(x, sort, half);
+                c.due("4 a page behind " + half, Checks.fault(x, 0, "a12(b3)"), 7);
+                Checks.fault(x, sort, half);
+                c.due("4 a digit behind " + half, Checks.fault(x, 0, "1"), 0);
+                Checks.fault(x, sort, half);
+                c.due("4 a rule behind " + half, Checks.fault(x, 1, "b/*c/0"), 6);
+                Checks.fault(x, sort, half);
+                c.due("4 a digit as a rule behind " + half, Checks.fault(x, 1, "0/>"), 3);
+            }
+        }
+    }
+
     private static void faultOfRules() {
         ruleFault("", 0);
         ruleFault("a", 1);
@@ -187,6 +206,8 @@ public final class PagesAndRulesTest {
         c.due("5 a ninth", Checks.page(x, "a"), RowsDrawn.FULL);
         c.due("5 full leaves the sheet", x.count(3), 1);
         c.due("5 and the pages", x.count(0), 8);
+        c.due("5 the eighth", x.box(7, 0, 0), 0);
+        c.due("5 none behind the eighth", x.box(8, 0, 0), RowsDrawn.UNKNOWN);
         c.due("5 state is told ahead of full", Checks.page(x, "a("), RowsDrawn.STATE);
     }
 
@@ -213,6 +234,8 @@ public final class PagesAndRulesTest {
         c.due("6 outside ahead of full", x.rule(6), RowsDrawn.OUTSIDE);
         c.due("6 state ahead of full", Checks.rule(x, 0, "/"), RowsDrawn.STATE);
         c.due("6 ten rules", x.count(1), 10);
+        c.due("6 the tenth", x.as(9, 0), 9);
+        c.due("6 none behind the tenth", x.as(10, 0), RowsDrawn.UNKNOWN);
     }
 
     private static void as() {
@@ -282,6 +305,9 @@ public final class PagesAndRulesTest {
         givesIs(SHELF, 0, "*d", Checks.bits(3, 5, 6, 8, 9));
         givesIs(SHELF, 0, "*d/*d", Checks.bits(5, 8));
         givesIs(SHELF, 0, "*a", 0);
+        givesIs("a(b(a(a)ba)a)", 0, "*a", Checks.bits(2, 3, 5, 6));
+        givesIs("a(b(a(a)ba)a)", 0, "*a/>", Checks.bits(4));
+        givesIs("e(b(e(a)be)a)", 0, "*e", Checks.bits(2, 5));
         givesIs(SHELF, 0, ">", 0);
         givesIs(SHELF, 0, "c/>", Checks.bits(2));
         givesIs(SHELF, 0, "c/>/>", Checks.bits(11));

@@ -130,6 +130,8 @@ public final class PagesBesideTest {
         c.due("24 pair 29", x.joined(0, 1, 1, 0, 0, 39), 1);
         c.due("24 pair 29 on q", x.joined(0, 1, 1, 0, 0, 69), 1);
         c.due("24 cells that are leaves are no ROWS", x.joined(0, 2, 4, 1, 1, 0), 0);
+        c.due("24 no first pair", x.joined(0, 2, 4, 1, 1, 10), -2);
+        c.due("24 no first pair on q", x.joined(0, 2, 4, 1, 1, 40), -2);
         c.due("24 key 0 is a key", x.joined(0, 3, 4, 1, 1, 0), 4);
         c.due("24 value 0", x.joined(0, 3, 4, 1, 1, 10), 0);
         c.due("24 value on q", x.joined(0, 3, 4, 1, 1, 41), 7);
