@@ -485,7 +485,7 @@ public final class RowsDrawn {
     public long digest() {
         long h = 331L;
         for (int p = 0; p < pageCount; p++) {
-            h = digestPage(h, p);
+            h = digestPage(h, pages[p]);
         }
         for (int r = 0; r < ruleCount; r++) {
             h = 31L * h + rules[r].sort;
@@ -508,8 +508,7 @@ public final class RowsDrawn {
         return h;
     }
 
-    private long digestPage(long before, int number) {
-        Page page = pages[number];
+    private long digestPage(long before, Page page) {
         long h = before;
         for (int b = 0; b < page.size; b++) {
             h = 31L * h + page.kinds[b];
@@ -518,7 +517,7 @@ public final class RowsDrawn {
             h = 31L * h + page.markOf(b);
         }
         h = 31L * h + (page.isWhole ? 1 : 0);
-        return 31L * h + like(number, 0);
+        return 31L * h + pairing.likeOf(page, pages[0]);
     }
 
     // ---- sets of BOXES, as bits
